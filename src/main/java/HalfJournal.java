@@ -64,7 +64,7 @@ public final class HalfJournal {
     }
 
     public void format() {
-        Arrays.fill(disk.bytes, (byte) 0);
+        clearBytes(disk.bytes, 0, DISK_BYTES);
         putHead(disk.bytes, BLOCK_BYTES, 1, 0);
         disk.due = NONE;
         goUp(1, 0);
@@ -266,23 +266,23 @@ public final class HalfJournal {
     private void planTape(int first, int last) {
         int from = first * BLOCK_BYTES;
         int at = records.used;
-        System.arraycopy(disk.bytes, firstByteOf(half) + from, plan, from, at - from);
-        Arrays.fill(plan, at, (last + 1) * BLOCK_BYTES, (byte) 0);
+        copyBytes(disk.bytes, firstByteOf(half) + from, plan, from, at - from);
+        clearBytes(plan, at, (last + 1) * BLOCK_BYTES);
         putNumber(plan, at, LENGTH_BYTES, taped);
-        System.arraycopy(tape, 0, plan, at + LENGTH_BYTES, taped);
+        copyBytes(tape, 0, plan, at + LENGTH_BYTES, taped);
         int checked = LENGTH_BYTES + taped;
         putNumber(plan, at + checked, CHECK_BYTES, checkOf(plan, at, checked));
     }
 
     /** Plans a HALF with the records that are not marked: how many bytes they have. */
     private int planUnmarked() {
-        Arrays.fill(plan, (byte) 0);
+        clearBytes(plan, 0, HALF_BYTES);
         int end = 0;
         for (int i = 0; i < records.count; i++) {
             if (!records.marks[i]) {
                 // The byte behind an odd record may have been spoiled: it is not copied, so it is 0 again.
                 int bytes = LENGTH_BYTES + records.lengths[i] + CHECK_BYTES;
-                System.arraycopy(disk.bytes, firstByteOf(half) + records.starts[i], plan, end, bytes);
+                copyBytes(disk.bytes, firstByteOf(half) + records.starts[i], plan, end, bytes);
                 end += sizeOf(records.lengths[i]);
             }
         }
@@ -310,7 +310,7 @@ public final class HalfJournal {
     }
 
     private boolean writeHead(int ofGeneration, int ofHalf) {
-        Arrays.fill(plan, 0, BLOCK_BYTES, (byte) 0);
+        clearBytes(plan, 0, BLOCK_BYTES);
         putHead(plan, 0, ofGeneration, ofHalf);
         return disk.write(ofGeneration & 1, plan, 0);
     }
@@ -347,10 +347,28 @@ public final class HalfJournal {
         return LENGTH_BYTES + length + CHECK_BYTES + (length & 1);
     }
 
+    private static boolean hasBytes(byte[] bytes, int from, int n) {
+        return from >= 0 && n >= 0 && n <= bytes.length - from;
+    }
+
+    private static void copyBytes(byte[] source, int from, byte[] target, int to, int n) {
+        if (hasBytes(source, from, n) && hasBytes(target, to, n)) {
+            System.arraycopy(source, from, target, to, n);
+        }
+    }
+
+    private static void clearBytes(byte[] bytes, int from, int end) {
+        if (hasBytes(bytes, from, end - from)) {
+            Arrays.fill(bytes, from, end, (byte) 0);
+        }
+    }
+
     private static int checkOf(byte[] bytes, int from, int n) {
-        int end = Math.min(from + n, bytes.length);
+        if (!hasBytes(bytes, from, n)) {
+            return 0;
+        }
         int c = -1;
-        for (int at = Math.max(from, 0); at < end; at++) {
+        for (int at = from; at < from + n; at++) {
             c ^= bytes[at] & 255;
             c = c >>> 4 ^ CHECK_STEPS[c & 15];
             c = c >>> 4 ^ CHECK_STEPS[c & 15];
@@ -360,7 +378,7 @@ public final class HalfJournal {
 
     /** The number of n bytes there, the lowest first. */
     private static int number(byte[] bytes, int from, int n) {
-        if (from < 0 || n > bytes.length - from) {
+        if (!hasBytes(bytes, from, n)) {
             return 0;
         }
         int v = 0;
@@ -371,7 +389,7 @@ public final class HalfJournal {
     }
 
     private static void putNumber(byte[] bytes, int from, int n, int v) {
-        if (from < 0 || n > bytes.length - from) {
+        if (!hasBytes(bytes, from, n)) {
             return;
         }
         for (int i = 0; i < n; i++) {
@@ -404,9 +422,7 @@ public final class HalfJournal {
             if (due > 0) {
                 due--;
             }
-            if (isBlock(b) && at >= 0 && at <= from.length - BLOCK_BYTES) {
-                System.arraycopy(from, at, bytes, b * BLOCK_BYTES, BLOCK_BYTES);
-            }
+            copyBytes(from, at, bytes, b * BLOCK_BYTES, BLOCK_BYTES);
             written++;
             return true;
         }

@@ -379,6 +379,12 @@ public final class HalfJournalPromises {
         put(x, 2, 0x66);
         due("the odd byte stays", x.block(2, 0) & 255, 0xAB);
         due("recover", x.recover(), 2);
+        tape(x, 300, 0x77);
+        x.crashIn(0);
+        due("a crash", x.append(), -1);
+        x.recover();
+        put(x, 2, 0x44);
+        due("nothing of a record that was not written", x.block(2, 4), 0);
     }
 
     // ---- promise 6
@@ -554,6 +560,12 @@ public final class HalfJournalPromises {
         due("compact", x.compact(), 0);
         dueHead(x, 0, 6, 1);
         due("generation", x.look(GENERATION), 6);
+        x.crash();
+        plantHead(x, 0, 8, 0);
+        x.recover();
+        due("compact from an even one to half 1", x.compact(), 0);
+        dueHead(x, 1, 9, 1);
+        dueHead(x, 0, 8, 0);
     }
 
     private static void compactMendsTheOddByte() {
