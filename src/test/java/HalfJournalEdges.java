@@ -57,6 +57,10 @@ public final class HalfJournalEdges {
     // ---- the sentences, in the document's order
 
     private static void whatItIs() {
+        test("any write can be the last one ahead of a crash: what was there before is there again, whole records alone",
+            HalfJournalEdges::recordsBehindCrashesOfAppend, HalfJournalEdges::recordsBehindCrashesOfCompact);
+        test("when it is full it is written anew, without those that are not wanted any more, on the other half",
+            HalfJournalEdges::fullAndWrittenAnew);
         test("An object is used for at most 512 calls after it has been made",
             HalfJournalEdges::manyRecordsUpToTheLastCall, HalfJournalEdges::dearestCallsUpToTheLastOne);
     }
@@ -181,6 +185,85 @@ public final class HalfJournalEdges {
     }
 
     // ---- what it is
+
+    private static void recordsBehindCrashesOfAppend() {
+        // The append has three writes, so the last crash comes too late for it.
+        for (int n = 0; n < 4; n++) {
+            Run run = threeRecords();
+            List<List<Long>> want = contentsOf(run);
+            run.tape(filled(1000, 0x44));
+            run.crashIn(n);
+            due("append, crash in " + n, run.append(), n < 3 ? NONE : 3);
+            due("recover, crash in " + n, run.recover(), n < 3 ? 3 : 4);
+            due("the records before, crash in " + n, contentsOf(run).subList(0, 3).equals(want), true);
+            due("the new one, crash in " + n, run.length(3), n < 3 ? NONE : 1000);
+            run.give(0x55, 1);
+            due("the next append, crash in " + n, run.append(), n < 3 ? 3 : 4);
+            due("recover again, crash in " + n, run.recover(), n < 3 ? 4 : 5);
+            due("the next one, crash in " + n, run.record(n < 3 ? 3 : 4, 0), 0x55L << 56);
+        }
+    }
+
+    private static void recordsBehindCrashesOfCompact() {
+        // Three writes: two blocks and the HEAD's. What a crash leaves on the other HALF must not come back later.
+        for (int n = 0; n < 4; n++) {
+            Run run = threeRecords();
+            run.put(20, 0x44);
+            List<List<Long>> want = contentsOf(run);
+            run.crashIn(n);
+            due("compact, crash in " + n, run.compact(), n < 3 ? NONE : 4);
+            due("recover, crash in " + n, run.recover(), 4);
+            due("generation, crash in " + n, run.look(GENERATION), n < 3 ? 1 : 2);
+            due("the records, crash in " + n, contentsOf(run).equals(want), true);
+            run.mark(1, true);
+            due("the next compact, crash in " + n, run.compact(), 3);
+            want.remove(1);
+            due("recover again, crash in " + n, run.recover(), 3);
+            due("the records without one, crash in " + n, contentsOf(run).equals(want), true);
+        }
+    }
+
+    private static void fullAndWrittenAnew() {
+        for (int half = 0; half < 2; half++) {
+            Run run = full(half);
+            run.give(0x7172, 2);
+            due("append to a full half", run.append(), UNSUPPORTED_EXCEPTION);
+            run.mark(3, true);
+            run.mark(15, true);
+            due("compact", run.compact(), 14);
+            due("the other half", run.look(HALF), 1 - half);
+            due("append of the same tape", run.append(), 14);
+            run.crash();
+            due("recover", run.recover(), 15);
+            due("its bytes", run.record(14, 0), 0x7172L << 48);
+        }
+    }
+
+    /** 492 bytes of records, so that 1000 bytes more lie in three blocks, and 20 more in two. */
+    private static Run threeRecords() {
+        Run run = formatted();
+        run.put(3, 0x11);
+        run.put(250, 0x22);
+        run.put(220, 0x33);
+        due("used", run.look(USED), 492);
+        return run;
+    }
+
+    /** The LENGTH and the words of each record, but of those above 250 bytes, which would take too many calls. */
+    private static List<List<Long>> contentsOf(Run run) {
+        List<List<Long>> contents = new ArrayList<>();
+        int records = run.look(RECORDS);
+        for (int i = 0; i < records; i++) {
+            List<Long> content = new ArrayList<>();
+            int length = run.length(i);
+            content.add((long) length);
+            for (int k = 0; length <= 250 && 8 * k < length; k++) {
+                content.add(run.record(i, k));
+            }
+            contents.add(content);
+        }
+        return contents;
+    }
 
     private static void manyRecordsUpToTheLastCall() {
         Run run = formatted();
